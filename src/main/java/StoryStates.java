@@ -129,7 +129,7 @@ public final class StoryStates {
             throws IndexOutOfBoundsException, IllegalArgumentException, IllegalStateException {
         mustBeThere(world.hasRule(rule));
         mustFit(isFrom(kind, 0, LAST_CLAUSE_KIND));
-        mustBeThere(kind == NUMBER_OR_LESS ? world.hasNumber(x) : world.hasSubject(kind, x));
+        mustBeThere(world.hasSubject(kind, x));
         mustBeThere(kind != THING_AT || world.hasPlace(y));
         mustFit(isConditionLevel(kind, y));
         mustBeAble(world.rules.conditions.hasSpace(rule));
@@ -359,7 +359,7 @@ public final class StoryStates {
         }
     }
 
-    /** A state is one long, so that states are kept, compared and found again without objects. */
+    /** A state is one long, so that states are kept, compared and found again without making objects. */
     private static final class Bits {
         private static final int PLACES_AT = 3;
         private static final int OPEN_AT = 27;
@@ -588,7 +588,7 @@ public final class StoryStates {
             return hasRoom(place) || isFrom(place, HANDS, INSIDE + things - 1);
         }
 
-        /** Of the kinds that conditions and effects have in common. */
+        /** For conditions; effects are about the same, but for the last kind. */
         boolean hasSubject(int kind, int x) {
             switch (kind) {
                 case PLAYER_IN: return hasRoom(x);
