@@ -6,6 +6,8 @@ final class Check {
 
     private static int passed = 0;
     private static int failed = 0;
+    private static String sentence = "";
+    private static int checkedBefore = 0;
 
     interface Call {
         Object answer();
@@ -16,6 +18,21 @@ final class Check {
     }
 
     private Check() {
+    }
+
+    /** The document's words that the checks behind this are about; words without a check are a fault. */
+    static void sentence(String words) {
+        endSentence();
+        sentence = words;
+        checkedBefore = passed + failed;
+    }
+
+    private static void endSentence() {
+        if (!sentence.isEmpty() && passed + failed == checkedBefore) {
+            failed++;
+            System.out.println("nothing was checked of: " + sentence);
+        }
+        sentence = "";
     }
 
     /** What a call answers, as a text: a boolean counts 1 or 0, an exception is told by its name. */
@@ -56,10 +73,14 @@ final class Check {
         } else {
             failed++;
             System.out.println(name + " answered " + got + ", due is " + want);
+            if (!sentence.isEmpty()) {
+                System.out.println("    of: " + sentence);
+            }
         }
     }
 
     static void end(String suite) {
+        endSentence();
         System.out.println(suite + ": " + passed + " passed, " + failed + " failed");
         if (failed != 0 || passed == 0) {
             System.exit(1);

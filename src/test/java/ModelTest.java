@@ -11,7 +11,7 @@ public final class ModelTest {
     private final StoryStates program = new StoryStates();
     private final Model model = new Model();
     private final List<String> log = new ArrayList<>();
-    /** How rich the run's world may get: small ones can be explored to their end. */
+    /** How rich the run's world may get: small ones can be explored to their end, in 4 all that may be is used. */
     private final int size;
 
     private static int finished = 0;
@@ -24,7 +24,8 @@ public final class ModelTest {
 
     private ModelTest(long seed) {
         random = new Random(seed);
-        size = random.nextInt(3);
+        int drawn = random.nextInt(4);
+        size = drawn == 3 ? 4 : drawn;
     }
 
     public static void main(String[] args) {
@@ -43,7 +44,7 @@ public final class ModelTest {
 
     /** The calls up to the first one answered otherwise, or null. */
     private String differs() {
-        int building = 20 + random.nextInt(60);
+        int building = (size == 4 ? 80 : 20) + random.nextInt(60);
         for (int i = 0; i < building; i++) {
             if (!build()) {
                 return String.join("\n", log);
@@ -134,7 +135,7 @@ public final class ModelTest {
             case 19:
                 return buildClause(false);
             case 20: {
-                int r = near(0, 3), c = near(1, random.nextInt(4) == 0 ? 15 : 3);
+                int r = near(0, size == 4 ? 11 : 3), c = near(1, random.nextInt(4) == 0 ? 15 : 3);
                 return same("timer(" + r + ", " + c + ")",
                         deed(() -> program.timer(r, c)), deed(() -> model.timer(r, c)));
             }
@@ -163,7 +164,7 @@ public final class ModelTest {
     }
 
     private boolean buildClause(boolean isCondition) {
-        int r = near(0, 4), k = near(0, 4), x = near(0, 2), y;
+        int r = near(0, size == 4 ? 11 : 4), k = near(0, 4), x = near(0, size == 4 && k < 3 ? 5 : 2), y;
         if (k == 1) {
             y = aPlace();
         } else if (k == 2) {
@@ -194,7 +195,7 @@ public final class ModelTest {
             }
             case 4:
             case 5: {
-                int w = near(0, 8), x = near(0, 2);
+                int w = near(0, 8), x = near(0, size == 4 ? 5 : 2);
                 return same("state(" + w + ", " + x + ")", () -> program.state(w, x), () -> model.state(w, x));
             }
             case 6: {
