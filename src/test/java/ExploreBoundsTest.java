@@ -40,6 +40,7 @@ public final class ExploreBoundsTest {
         howManyWereFound();
         theOthersNeedThatItIsFinished();
         hopelessOrNot();
+        hopelessAmongAllStates();
         theLastTurnBeforeWhichItWasNot();
         noTurnSpoiledIt();
         statesThatLeadToThemselves();
@@ -513,6 +514,61 @@ public final class ExploreBoundsTest {
         explored(line(), 1000).study("1", 1, 0);
         for (int i : new int[] {-1, 1, FAR, LOW}) {
             Settings.SPOILED.study("1", 1, i);
+        }
+    }
+
+    /**
+     * Three numbers that only grow, by verb 7, verb 8 and GO 0: 8 * 8 * 2 states. WAIT ends it well while the first
+     * is at most a and the second at most b, which are (a + 1) * (b + 1) * 2 states more, 32 of them at most.
+     */
+    private static Setting growing(int a, int b) {
+        return explored(EMPTY.then("growing, to " + a + " and " + b, s -> {
+            s.room();
+            s.ending(true);
+            s.number(0, 7);
+            s.number(0, 7);
+            s.number(0, 1);
+            s.effect(s.rule(7, -1, -1, 0), 3, 0, 1);
+            s.effect(s.rule(8, -1, -1, 1), 3, 1, 1);
+            s.effect(s.rule(0, 0, -1, 2), 3, 2, 1);
+            s.rule(6, -1, -1, 3);
+            s.condition(3, 4, 0, a);
+            s.condition(3, 4, 1, b);
+            s.effect(3, 4, 0, 0);
+        }), 1000);
+    }
+
+    private static void hopelessAmongAllStates() {
+        Check.sentence("whether the present state is HOPELESS (each of up to 160 states)");
+        for (int a = 0; a <= 7; a++) {
+            for (int b = 0; b <= 7 && (a + 1) * (b + 1) <= 16; b++) {
+                Setting world = growing(a, b);
+                world.explore("1", 0);
+                world.study(String.valueOf(128 + (a + 1) * (b + 1) * 2), 0, 0);
+                world.study("1", 3, 0);
+                for (int state = 0; state < 128; state++) {
+                    hopelessAt(world, a, b, state);
+                }
+            }
+        }
+    }
+
+    private static void hopelessAt(Setting world, int a, int b, int state) {
+        int first = state % 8;
+        int second = state / 8 % 8;
+        StoryStates s = world.make();
+        repeat(s, first, 7, -1);
+        repeat(s, second, 8, -1);
+        repeat(s, state / 64, 0, 0);
+        int spoiled = first > a ? a : second > b ? first + b : -1;
+        String name = first + " of " + a + ", " + second + " of " + b;
+        Check.due(name + ": hopeless", spoiled == -1 ? 0 : 1, () -> s.study(1, 0));
+        Check.due(name + ": by which turn", spoiled, () -> s.study(2, 0));
+    }
+
+    private static void repeat(StoryStates s, int times, int verb, int a) {
+        for (int i = 0; i < times; i++) {
+            s.command(verb, a, -1);
         }
     }
 
