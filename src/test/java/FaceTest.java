@@ -42,7 +42,7 @@ public final class FaceTest {
         Check.end("FaceTest");
     }
 
-    private static TreeSet<String> methodsOf(Class<?> face) {
+    static TreeSet<String> methodsOf(Class<?> face) {
         TreeSet<String> all = new TreeSet<>();
         for (Method method : face.getDeclaredMethods()) {
             if (!Modifier.isPrivate(method.getModifiers()) && !method.isSynthetic()) {
